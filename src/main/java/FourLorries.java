@@ -102,8 +102,8 @@ public final class FourLorries {
         if (rule == NEVER) {
             return outlook.neverMoved(camps[x], n, end);
         }
-        outlook.look(camps[x], rule, n, end);
-        return outlook.worthOf(camps[x].state());
+        outlook.look(camps[x], rule, n, end, 0);
+        return outlook.worthNow();
     }
 
     public int today(int x, int n, int what) {
@@ -113,8 +113,8 @@ public final class FourLorries {
         if (!isDay(n) || what < 0 || what > 1) {
             return OUTSIDE;
         }
-        outlook.look(camps[x], BEST, n, LOW);
-        int choice = outlook.choiceOf(camps[x].state());
+        outlook.look(camps[x], BEST, n, LOW, 0);
+        int choice = outlook.choiceNow();
         return what == 0 ? choice / 2 : choice % 2;
     }
 
@@ -122,7 +122,7 @@ public final class FourLorries {
         if (!isSortOf(x, s) || !isDay(n) || camps[x].number(s, GOOD) >= MOST_GOOD) {
             return LOST;
         }
-        return bestGain(camps[x], n, camps[x].stride(s));
+        return bestGain(camps[x], n, s, NONE);
     }
 
     public int crate(int x, int w, int n, int k) {
@@ -132,10 +132,9 @@ public final class FourLorries {
         if (w < 0 || w > MOST_WEIGHT || !isDay(n)) {
             return OUTSIDE;
         }
-        Camp camp = camps[x];
-        outlook.look(camp, BEST, n, LOW);
+        outlook.look(camps[x], BEST, n, LOW, MOST_GOOD);
         int filled = outlook.bestFilled(w);
-        return k < 0 ? camp.weightAdded(filled) : camp.goodIn(filled, k) - camp.number(k, GOOD);
+        return k < 0 ? outlook.weightAdded(filled) : outlook.added(filled, k);
     }
 
     public long lent(int x, int y, int s, int n) {
@@ -145,7 +144,7 @@ public final class FourLorries {
         if (camps[x].number(s, GOOD) <= 0 || camps[y].number(s, GOOD) >= MOST_GOOD) {
             return LOST;
         }
-        return bestGain(camps[x], n, -camps[x].stride(s)) + bestGain(camps[y], n, camps[y].stride(s));
+        return bestGain(camps[x], n, NONE, s) + bestGain(camps[y], n, s, NONE);
     }
 
     public int both(int x, int y, int s, int t, int n) {
@@ -158,7 +157,7 @@ public final class FourLorries {
         if (!canSwap(camps[x], s, t) || !canSwap(camps[y], t, s)) {
             return STATE;
         }
-        return swapGain(camps[x], n, s, t) > 0 && swapGain(camps[y], n, t, s) > 0 ? 1 : 0;
+        return bestGain(camps[x], n, t, s) > 0 && bestGain(camps[y], n, s, t) > 0 ? 1 : 0;
     }
 
     // ---- 3 the yard
@@ -468,19 +467,14 @@ public final class FourLorries {
         return rows[sheet].lacks(i, n) ? faulty(INDEX_FAULT) : 0;
     }
 
-    /** By how much LOW of BEST is more when the camp's state is changed by so much. */
-    private long bestGain(Camp camp, int n, int change) {
-        outlook.look(camp, BEST, n, LOW);
-        int state = camp.state();
-        return outlook.worthOf(state + change) - outlook.worthOf(state);
+    /** By how much LOW of BEST is more with one good one got of a sort, one given of another (or NONE). */
+    private long bestGain(Camp camp, int n, int got, int given) {
+        outlook.look(camp, BEST, n, LOW, 1);
+        return outlook.gain(got, given);
     }
 
     private static boolean canSwap(Camp camp, int given, int got) {
         return camp.number(given, GOOD) > 0 && camp.number(got, GOOD) < MOST_GOOD;
-    }
-
-    private long swapGain(Camp camp, int n, int given, int got) {
-        return bestGain(camp, n, camp.stride(got) - camp.stride(given));
     }
 
     // ---- classes inside
@@ -667,14 +661,7 @@ public final class FourLorries {
         }
     }
 
-    /**
-     * A camp. A state is how many good ones there are of each sort, as the digits, to the base of 6,
-     * of one number, the first sort ahead: states in order are rows by sorts in order.
-     */
     private static final class Camp {
-        private static final int BASE = MOST_GOOD + 1;
-        private static final int[] POWERS = {1, 6, 36, 216};
-
         private final int lorries;
         private final int sorts;
         private final int planeDays;
@@ -698,62 +685,19 @@ public final class FourLorries {
         }
 
         int canRun() {
-            return Math.min(lorries, fewestIn(state()));
-        }
-
-        int states() {
-            return POWERS[sorts];
-        }
-
-        int stride(int s) {
-            return POWERS[sorts - 1 - s];
-        }
-
-        int goodIn(int state, int s) {
-            return state / stride(s) % BASE;
-        }
-
-        int state() {
-            int state = 0;
+            int can = lorries;
             for (int s = 0; s < sorts; s++) {
-                state += number(s, GOOD) * stride(s);
+                can = Math.min(can, number(s, GOOD));
             }
-            return state;
-        }
-
-        int fewestIn(int state) {
-            int fewest = MOST_GOOD;
-            for (int s = 0; s < sorts; s++) {
-                fewest = Math.min(fewest, goodIn(state, s));
-            }
-            return fewest;
-        }
-
-        int afterPlane(int state) {
-            int after = 0;
-            for (int s = 0; s < sorts; s++) {
-                after += Math.min(MOST_GOOD, goodIn(state, s) + number(s, PLANE)) * stride(s);
-            }
-            return after;
-        }
-
-        /** The weight of what a state has more than there is now; NONE if it has less of a sort. */
-        int weightAdded(int state) {
-            int weight = 0;
-            for (int s = 0; s < sorts; s++) {
-                int more = goodIn(state, s) - number(s, GOOD);
-                if (more < 0) {
-                    return NONE;
-                }
-                weight += more * number(s, WEIGHT);
-            }
-            return weight;
+            return can;
         }
     }
 
     /**
      * What a camp brings to a told day, of all its states at once: worths, crates and loans are
-     * differences within one such table, so it is kept until another one is asked for.
+     * differences within one such table, so it is kept until another one is asked for. A state is how
+     * many good ones there are of each sort, as the digits of one number, the first sort ahead: states
+     * in order are rows by sorts in order. The table is no larger than what can be come to.
      */
     private static final class Outlook {
         private static final int STATES = 216;
@@ -764,9 +708,13 @@ public final class FourLorries {
         private int rule = BEST;
         private int days = 0;
         private int end = LOW;
+        private int spare = 0;
+        private int states = 0;
+        private final int[] sizes = new int[MOST_SORTS];
+        private final int[] strides = new int[MOST_SORTS];
+        private final int[] can = new int[STATES];
         private final long[] worths = new long[STATES];
         private final int[] choices = new int[STATES];
-        private final int[] can = new int[STATES];
         private final long[] follows = new long[STATES];
         private final long[] means = new long[STATES];
         private final long[] chances = new long[MOST_LORRIES + 1];
@@ -775,26 +723,20 @@ public final class FourLorries {
             camp = null;
         }
 
-        long worthOf(int state) {
-            return worths[state];
-        }
-
-        /** Twice how many run, and 1 if easy. */
-        int choiceOf(int state) {
-            return choices[state];
-        }
-
-        void look(Camp newCamp, int newRule, int newDays, int newEnd) {
-            if (camp == newCamp && rule == newRule && days == newDays && end == newEnd) {
+        /** The table is to hold states with so many (newSpare) more good ones of each sort than now. */
+        void look(Camp newCamp, int newRule, int newDays, int newEnd, int newSpare) {
+            if (camp == newCamp && rule == newRule && days == newDays && end == newEnd && spare >= newSpare) {
                 return;
             }
             camp = newCamp;
             rule = newRule;
             days = newDays;
             end = newEnd;
+            spare = newSpare;
+            setSizes();
             int lorries = rule == ONE ? camp.lorries - 1 : camp.lorries;
-            for (int state = 0; state < camp.states(); state++) {
-                can[state] = Math.min(lorries, camp.fewestIn(state));
+            for (int state = 0; state < states; state++) {
+                can[state] = Math.min(lorries, fewestIn(state));
                 worths[state] = 0;
             }
             for (int day = days; day >= 1; day--) {
@@ -802,11 +744,64 @@ public final class FourLorries {
             }
         }
 
+        long worthNow() {
+            return worths[stateNow()];
+        }
+
+        /** Twice how many run, and 1 if easy. */
+        int choiceNow() {
+            return choices[stateNow()];
+        }
+
+        long gain(int got, int given) {
+            int state = stateNow();
+            int changed = state + (got == NONE ? 0 : strides[got]) - (given == NONE ? 0 : strides[given]);
+            return worths[changed] - worths[state];
+        }
+
+        private void setSizes() {
+            states = 1;
+            for (int s = camp.sorts - 1; s >= 0; s--) {
+                boolean grows = camp.planeDays > 0 && camp.number(s, PLANE) > 0;
+                sizes[s] = 1 + (grows ? MOST_GOOD : Math.min(MOST_GOOD, camp.number(s, GOOD) + spare));
+                strides[s] = states;
+                states *= sizes[s];
+            }
+        }
+
+        private int goodIn(int state, int s) {
+            return state / strides[s] % sizes[s];
+        }
+
+        private int stateNow() {
+            int state = 0;
+            for (int s = 0; s < camp.sorts; s++) {
+                state += camp.number(s, GOOD) * strides[s];
+            }
+            return state;
+        }
+
+        private int fewestIn(int state) {
+            int fewest = MOST_GOOD;
+            for (int s = 0; s < camp.sorts; s++) {
+                fewest = Math.min(fewest, goodIn(state, s));
+            }
+            return fewest;
+        }
+
+        private int afterPlane(int state) {
+            int after = 0;
+            for (int s = 0; s < camp.sorts; s++) {
+                after += Math.min(MOST_GOOD, goodIn(state, s) + camp.number(s, PLANE)) * strides[s];
+            }
+            return after;
+        }
+
         /** The most lorries first, hard ahead of easy: of equal ones the first tried is kept. */
         private void passDay(int day, int lorries) {
             boolean comes = camp.planeDays > 0 && day % camp.planeDays == 0;
-            for (int state = 0; state < camp.states(); state++) {
-                follows[state] = worths[comes ? camp.afterPlane(state) : state];
+            for (int state = 0; state < states; state++) {
+                follows[state] = worths[comes ? afterPlane(state) : state];
             }
             Arrays.fill(worths, -1);
             for (int k = lorries; k >= 0; k--) {
@@ -826,11 +821,9 @@ public final class FourLorries {
         }
 
         private void tryDriving(int k, int easy) {
-            int states = camp.states();
             System.arraycopy(follows, 0, means, 0, states);
-            for (int s = camp.sorts - 1; s >= 0 && k > 0; s--) {
-                setChances(k, camp.number(s, easy == 1 ? EASY : HARD));
-                takeMeans(k, camp.stride(s), states);
+            for (int s = camp.sorts - 1; s >= 0; s--) {
+                takeMeans(k, s, camp.number(s, easy == 1 ? EASY : HARD));
             }
             long brought = (3 - easy) * MILLION * camp.brings[k];
             for (int state = 0; state < states; state++) {
@@ -842,10 +835,19 @@ public final class FourLorries {
             }
         }
 
-        /** Downwards, as each mean is of its own state and of lower ones that are still as they were. */
-        private void takeMeans(int k, int stride, int states) {
-            for (int state = states - 1; state >= k * stride; state--) {
-                if (state / stride % Camp.BASE >= k) {
+        /**
+         * In each block of states that differ in this sort or in those behind it, for k or more of it:
+         * downwards, as a mean is of its own state and of lower ones that are still as they were.
+         */
+        private void takeMeans(int k, int s, int h) {
+            if (k == 0 || h == 0) {
+                return;
+            }
+            setChances(k, h);
+            int stride = strides[s];
+            int block = stride * sizes[s];
+            for (int start = 0; start < states; start += block) {
+                for (int state = start + block - 1; state >= start + k * stride; state--) {
                     means[state] = meanAt(state, stride, k);
                 }
             }
@@ -853,8 +855,10 @@ public final class FourLorries {
 
         private long meanAt(int at, int stride, int k) {
             long sum = 0;
+            int from = at;
             for (int broken = 0; broken <= k; broken++) {
-                sum += chances[broken] * means[at - broken * stride];
+                sum += chances[broken] * means[from];
+                from -= stride;
             }
             long all = TWELVES[k];
             return (end == HIGH ? sum + all - 1 : sum) / all;
@@ -892,12 +896,29 @@ public final class FourLorries {
             return means[first];
         }
 
-        /** The state of the crate for the camp looked at; states come by rows, so the first is kept. */
+        int added(int state, int s) {
+            return goodIn(state, s) - camp.number(s, GOOD);
+        }
+
+        /** The weight of what a state has more than there is now; NONE if it has less of a sort. */
+        int weightAdded(int state) {
+            int weight = 0;
+            for (int s = 0; s < camp.sorts; s++) {
+                int more = added(state, s);
+                if (more < 0) {
+                    return NONE;
+                }
+                weight += more * camp.number(s, WEIGHT);
+            }
+            return weight;
+        }
+
+        /** The state that the best crate makes; of equal ones the first is kept, as they come by rows. */
         int bestFilled(int w) {
-            int best = camp.state();
+            int best = stateNow();
             int bestWeight = 0;
-            for (int state = best; state < camp.states(); state++) {
-                int weight = camp.weightAdded(state);
+            for (int state = best; state < states; state++) {
+                int weight = weightAdded(state);
                 if (weight == NONE || weight > w) {
                     continue;
                 }

@@ -12,6 +12,7 @@ public final class CampsTest {
         campOfText();
         firstFaults();
         faultsAgainstPattern();
+        endsAheadOfTheRow();
         refusalsOfCamp();
         orderOfCamp();
         ofCamp();
@@ -162,6 +163,20 @@ public final class CampsTest {
         return b.toString();
     }
 
+    /** Cells behind the text's end are no part of it, though it would go on with them. */
+    private static void endsAheadOfTheRow() {
+        FourLorries x = new FourLorries();
+        for (String text : new String[] {WHOLE, "l1;s1h12e12w1;b1"}) {
+            Check.write(x, 0, 2, text);
+            for (int n = 0; n < text.length(); n++) {
+                String taken = text.substring(0, n);
+                int fault = expectedFault(taken);
+                Check.due("just " + taken, x.camp(0, 2, 0, n), fault < 0 ? x.many(0) - 1 : -100 - fault);
+            }
+        }
+        Check.due("without its plane it is a text", x.many(0), 1);
+    }
+
     private static void refusalsOfCamp() {
         FourLorries x = new FourLorries();
         Check.due("no such sheet", x.camp(4, 0, 0, 0), UNKNOWN);
@@ -235,11 +250,12 @@ public final class CampsTest {
                 Check.due("ofSort(0, " + s + ", " + what + ")", x.ofSort(0, s, what), due[s][what]);
             }
         }
-        Check.camp(x, "l1;s2h1e1w1;b7");
+        Check.camp(x, "l1;s2h1e1w1;s2h1e1w1;b7");
         Check.due("without a plane", x.ofSort(1, 0, 4), 0);
+        Check.due("without a plane", x.ofSort(1, 1, 4), 0);
         Check.due("no such what", x.ofSort(0, 0, 5), OUTSIDE);
         Check.due("no such what", x.ofSort(0, 0, -1), OUTSIDE);
-        Check.due("no such sort", x.ofSort(1, 1, 5), UNKNOWN);
+        Check.due("no such sort", x.ofSort(1, 2, 5), UNKNOWN);
         Check.due("no such sort", x.ofSort(0, -1, 0), UNKNOWN);
         Check.due("no such camp", x.ofSort(2, 0, 0), UNKNOWN);
     }
@@ -265,6 +281,12 @@ public final class CampsTest {
         Check.due("no such camp", x.turn(1, 0, 0, 0), UNKNOWN);
         long before = x.value(0, 0, 5, 0);
         x.turn(0, 1, 0, 5);
-        Check.yes("values see what was turned", x.value(0, 0, 5, 0) > before);
+        Check.yes("values see GOOD turned", x.value(0, 0, 5, 0) > before);
+        before = x.value(0, 0, 5, 0);
+        x.turn(0, 0, 1, 0);
+        Check.yes("values see HARD turned", x.value(0, 0, 5, 0) > before);
+        before = x.value(0, 2, 5, 0);
+        x.turn(0, 2, 2, 0);
+        Check.yes("values see EASY turned", x.value(0, 2, 5, 0) > before);
     }
 }

@@ -188,6 +188,10 @@ public final class OutlookTest {
         // Two sorts alike: of sets of one weight the first as a row has none of the first sort.
         Check.camp(x, "l1;s1h6e6w2;s1h6e6w2;b1");
         Check.due("the first as a row", 10 * x.crate(2, 2, 2, 0) + x.crate(2, 2, 2, 1), 1);
+        x.turn(2, 0, 3, 1);
+        x.turn(2, 1, 3, 9);
+        Check.due("the lighter one, though behind as a row", 10 * x.crate(2, 9, 2, 0) + x.crate(2, 9, 2, 1), 10);
+        Check.due("its weight", x.crate(2, 9, 2, -1), 1);
     }
 
     private static void lent() {
@@ -216,6 +220,10 @@ public final class OutlookTest {
         Check.due("no such camp", x.both(0, 2, 0, 0, 0), UNKNOWN);
         Check.due("no such sort of both", x.both(0, 1, 2, 2, 0), UNKNOWN);
         Check.due("no such sort of both", x.both(1, 0, 0, 2, 1), UNKNOWN);
+        Check.due("no such sort of both", x.both(0, 1, 0, 2, 1), UNKNOWN);
+        Check.due("no such sort of both", x.both(0, 1, 2, 0, 1), UNKNOWN);
+        Check.due("no such sort of both", x.both(1, 0, 2, 0, 1), UNKNOWN);
+        Check.due("no such sort of both", x.both(0, 1, -1, 0, 1), UNKNOWN);
         Check.due("both camps are one", x.both(0, 0, 0, 1, 1), OUTSIDE);
         Check.due("both sorts are one", x.both(0, 1, 1, 1, 1), OUTSIDE);
         Check.due("no such day", x.both(0, 1, 1, 0, 0), OUTSIDE);

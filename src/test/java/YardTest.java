@@ -233,12 +233,14 @@ public final class YardTest {
     private static void runs() {
         FourLorries x = complete();
         Check.due("one runs", x.runs(), 4);
-        x.mend(1, false);
-        Check.due("broken", x.runs(), 0);
-        x.mend(1, true);
-        x.move(2, NONE, 0, 11);
-        Check.due("not complete", x.runs(), 0);
-        x.move(2, 2, 2, 0);
+        for (int p = 0; p < 3; p++) {
+            x.mend(p, false);
+            Check.due("broken", x.runs(), 0);
+            x.mend(p, true);
+            x.move(p, NONE, 0, 11);
+            Check.due("not complete", x.runs(), 0);
+            x.move(p, 2, p, 0);
+        }
         for (int p = 3; p < 6; p++) {
             x.part(0, p - 3, 1);
             x.move(p, 0, p - 3, 0);
@@ -261,6 +263,9 @@ public final class YardTest {
         x.part(2, 0, 5);
         x.mend(0, true);
         way(x, 2, 3, 4 + 1 + 6, 5);
+        x.sheet(0, 0, 3);
+        x.drive(0, 0, 0, 3);
+        way(x, 1, 3, 4 + 1 + 6, 1);
         Check.due("no such what", x.most(4), OUTSIDE);
         Check.due("no such what", x.most(-1), OUTSIDE);
     }
