@@ -32,10 +32,12 @@ public final class OutlookTest {
         Check.due("nothing can run", x.value(0, 0, 2, 1), 0);
         Check.due("but behind a plane", x.value(0, 0, 3, 1), 12000000);
         Check.due("no plane for never", x.value(0, 4, 3, 1), 0);
-        // Thirds: 8 of 12 whole, so 3 times 1 and two thirds of 3 are cut, or are one more.
+        // A third stays whole each day: 3, then 1, then a third, which is cut, or is one more.
         Check.camp(x, "l1;s1h8e12w1;b1");
         Check.due("cut", x.value(1, 1, 3, 0), 4333333);
+        Check.due("by never", x.value(1, 4, 3, 1), 4333334);
         Check.due("one more", x.value(1, 1, 3, 1), 4333334);
+        Check.due("cut by never", x.value(1, 4, 3, 0), 4333333);
     }
 
     private static void againstModel() {
@@ -192,6 +194,10 @@ public final class OutlookTest {
         x.turn(2, 1, 3, 9);
         Check.due("the lighter one, though behind as a row", 10 * x.crate(2, 9, 2, 0) + x.crate(2, 9, 2, 1), 10);
         Check.due("its weight", x.crate(2, 9, 2, -1), 1);
+        FourLorries y = new FourLorries();
+        Check.camp(y, "l4;s0h0e0w1;s0h0e0w1;s0h0e0w1;b1234");
+        Check.due("of none at all", y.crate(0, 12, 1, -1), 12);
+        Check.due("of none at all, one short", y.crate(0, 11, 1, -1), 9);
     }
 
     private static void lent() {
