@@ -23,6 +23,7 @@ public final class YardEdgesTest {
         runs();
         most();
         goes();
+        goesOfTwelve();
         orderOfDrive();
         cellsOfDrive();
         drawsOfDrive();
@@ -442,6 +443,28 @@ public final class YardEdgesTest {
         for (int p = 0; p < 4; p++) {
             Check.due("promise 23, too few", y.goes(p), NONE);
         }
+    }
+
+    /** All 12 parts are wanted, and the last of them for the first places: the greatest row that there is. */
+    private static void goesOfTwelve() {
+        FourLorries x = new FourLorries();
+        for (int p = 0; p < 12; p++) {
+            x.part(0, 2 - p / 4, 9);
+        }
+        way(x, 4, 12, 12 * 9, 15);
+        for (int p = 0; p < 12; p++) {
+            Check.due("promise 23, part " + p + " of twelve", x.goes(p), p % 4 * 10 + 2 - p / 4);
+        }
+        for (int p = 0; p < 12; p++) {
+            x.move(p, 3 - p % 4, 2 - p / 4, 11);
+        }
+        way(x, 4, 0, 0, 15);
+        for (int p = 0; p < 12; p++) {
+            Check.due("promise 23, part " + p + " of twelve stays", x.goes(p), (3 - p % 4) * 10 + 2 - p / 4);
+        }
+        x.mend(0, false);
+        way(x, 3, 0, 0, 7);
+        Check.due("promise 23, what stays behind in a lorry goes nowhere", x.goes(4), NONE);
     }
 
     /** Lorry 2 runs by three parts; sheet 0 has draws, sheet 1 has one that is none, sheet 2 has nothing. */
