@@ -141,26 +141,11 @@ public final class CampsTest {
     private static void faultsAgainstPattern() {
         Random random = new Random(1);
         for (int run = 0; run < 3000; run++) {
-            String text = mutated(random, Model.randomText(random));
+            String text = Model.mutated(random, Model.randomText(random), random.nextInt(3));
             FourLorries x = new FourLorries();
             int fault = expectedFault(text);
             Check.due("by a pattern: " + text, Check.camp(x, text), fault < 0 ? 0 : -100 - fault);
         }
-    }
-
-    private static String mutated(Random random, String text) {
-        StringBuilder b = new StringBuilder(text);
-        for (int i = random.nextInt(3); i > 0; i--) {
-            int place = random.nextInt(b.length());
-            char code = "lshewbp;0123456789".charAt(random.nextInt(18));
-            switch (random.nextInt(4)) {
-                case 0: b.setCharAt(place, code); break;
-                case 1: b.insert(place, code); break;
-                case 2: b.deleteCharAt(place); break;
-                default: b.setLength(place + 1);
-            }
-        }
-        return b.toString();
     }
 
     /** Cells behind the text's end are no part of it, though it would go on with them. */

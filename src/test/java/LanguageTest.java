@@ -1,21 +1,15 @@
-import com.sun.source.tree.AssertTree;
 import com.sun.source.tree.BinaryTree;
 import com.sun.source.tree.BlockTree;
 import com.sun.source.tree.ClassTree;
 import com.sun.source.tree.CompilationUnitTree;
 import com.sun.source.tree.DoWhileLoopTree;
 import com.sun.source.tree.ForLoopTree;
-import com.sun.source.tree.LambdaExpressionTree;
 import com.sun.source.tree.LiteralTree;
-import com.sun.source.tree.MemberReferenceTree;
 import com.sun.source.tree.MethodInvocationTree;
 import com.sun.source.tree.MethodTree;
 import com.sun.source.tree.NewArrayTree;
 import com.sun.source.tree.NewClassTree;
-import com.sun.source.tree.SynchronizedTree;
-import com.sun.source.tree.ThrowTree;
 import com.sun.source.tree.Tree;
-import com.sun.source.tree.TryTree;
 import com.sun.source.tree.TypeCastTree;
 import com.sun.source.tree.VariableTree;
 import com.sun.source.tree.WhileLoopTree;
@@ -54,6 +48,9 @@ public final class LanguageTest {
     private static final Set<String> LISTS = Set.of("add", "get", "set", "remove", "size", "isEmpty", "clear", "of");
     private static final Set<String> MAKERS = Set.of("camp", "addPart", "<init>");
     private static final Set<String> LIBRARY_TYPES = Set.of("java.lang.String", "java.lang.StringBuilder", "java.lang.Integer");
+
+    private static final Map<Tree.Kind, Integer> RULED_OUT = Map.of(Tree.Kind.LAMBDA_EXPRESSION, 2, Tree.Kind.MEMBER_REFERENCE, 2,
+        Tree.Kind.THROW, 6, Tree.Kind.TRY, 6, Tree.Kind.SYNCHRONIZED, 6, Tree.Kind.ASSERT, 6);
 
     private final Trees trees;
     private final CompilationUnitTree unit;
@@ -153,6 +150,14 @@ public final class LanguageTest {
     private final class Reader extends TreePathScanner<Void, Void> {
         private String method = "";
         private Element inside = null;
+
+        @Override
+        public Void scan(Tree tree, Void none) {
+            if (tree != null && RULED_OUT.containsKey(tree.getKind())) {
+                ruledOut(RULED_OUT.get(tree.getKind()), tree);
+            }
+            return super.scan(tree, none);
+        }
 
         private void ruledOut(int rule, Tree tree) {
             Check.yes("rule " + rule + ", at line " + unit.getLineMap().getLineNumber(start(tree)) + ": " + tree, false);
@@ -345,42 +350,6 @@ public final class LanguageTest {
         public Void visitDoWhileLoop(DoWhileLoopTree tree, Void none) {
             Check.yes("rule 9, a loop with an end: " + tree, !isAlways(tree.getCondition()));
             return super.visitDoWhileLoop(tree, none);
-        }
-
-        @Override
-        public Void visitLambdaExpression(LambdaExpressionTree tree, Void none) {
-            ruledOut(2, tree);
-            return null;
-        }
-
-        @Override
-        public Void visitMemberReference(MemberReferenceTree tree, Void none) {
-            ruledOut(2, tree);
-            return null;
-        }
-
-        @Override
-        public Void visitThrow(ThrowTree tree, Void none) {
-            ruledOut(6, tree);
-            return null;
-        }
-
-        @Override
-        public Void visitTry(TryTree tree, Void none) {
-            ruledOut(6, tree);
-            return null;
-        }
-
-        @Override
-        public Void visitSynchronized(SynchronizedTree tree, Void none) {
-            ruledOut(6, tree);
-            return null;
-        }
-
-        @Override
-        public Void visitAssert(AssertTree tree, Void none) {
-            ruledOut(6, tree);
-            return null;
         }
     }
 }

@@ -55,6 +55,22 @@ final class Model {
         return b.toString();
     }
 
+    /** The text with so many changes: a code put for another, put in, taken out, or all behind it cut off. */
+    static String mutated(Random random, String text, int changes) {
+        StringBuilder b = new StringBuilder(text);
+        for (int i = 0; i < changes && b.length() > 0; i++) {
+            int place = random.nextInt(b.length());
+            char code = "lshewbp;0123456789".charAt(random.nextInt(18));
+            switch (random.nextInt(4)) {
+                case 0: b.setCharAt(place, code); break;
+                case 1: b.insert(place, code); break;
+                case 2: b.deleteCharAt(place); break;
+                default: b.setLength(place + 1);
+            }
+        }
+        return b.toString();
+    }
+
     int can(int[] g) {
         int can = lorries;
         for (int parts : g) {

@@ -123,17 +123,8 @@ public final class RunsTest {
 
     /** A text, perhaps with a fault, written onto a sheet with something ahead and behind, and taken. */
     private void text() throws ReflectiveOperationException {
-        StringBuilder text = new StringBuilder(Model.randomText(random));
-        for (int wrong = random.nextInt(3) == 0 ? 1 + random.nextInt(2) : 0; wrong > 0; wrong--) {
-            int place = random.nextInt(text.length());
-            char code = "lshewbp;0123456789".charAt(random.nextInt(18));
-            switch (random.nextInt(4)) {
-                case 0: text.setCharAt(place, code); break;
-                case 1: text.insert(place, code); break;
-                case 2: text.deleteCharAt(place); break;
-                default: text.setLength(place + 1);
-            }
-        }
+        int changes = random.nextInt(3) == 0 ? 1 + random.nextInt(2) : 0;
+        String text = Model.mutated(random, Model.randomText(random), changes);
         int k = random.nextInt(4);
         int lane = random.nextInt(3);
         int ahead = random.nextInt(5);
